@@ -900,7 +900,7 @@ public final class HalfShop {
         }
 
         /** What binds looser holds what binds closer; the closest of all is a part. */
-        boolean readLevel(Law law, int level, int depth) {
+        private boolean readLevel(Law law, int level, int depth) {
             if (level > PRODUCT) {
                 return readPart(law, depth);
             }
@@ -1580,7 +1580,7 @@ public final class HalfShop {
                 return false;
             }
             for (int i = 0; i < many; i++) {
-                if (reached[half] <= weeks[i] != halves[i]) {
+                if ((reached[half] <= weeks[i]) != halves[i]) {
                     return false;
                 }
             }

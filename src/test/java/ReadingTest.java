@@ -33,6 +33,15 @@ public final class ReadingTest {
         Check.dueRepublic("fine 7 ,", 1, 7);
         Check.dueRepublic("works 3and 4;", 0, 0);
         Check.dueRepublic("works 3so;", 1, 7);
+        Check.dueRepublic("ware az plain whole 9 done 1;party za seats 2;for za az;", 0, 0);
+        Check.dueRepublic("ware `a plain whole 9 done 1;", 1, 5);
+        Check.dueRepublic("ware {a plain whole 9 done 1;", 1, 5);
+        Check.dueRepublic("fine /1;", 1, 5);
+        Check.dueRepublic("fine :1;", 1, 5);
+        Check.dueRepublic("ware a plain whole 9 done 1;ware aa plain whole 9 done 1;ware b plain whole 9 done 1;"
+            + "ware bb plain whole 9 done 1;ware ba plain whole 9 done 1;ware ab plain whole 9 done 1;"
+            + "party z seats 1;party zz seats 1;party aaaaaaaa seats 1;party zzzzzzzz seats 1;"
+            + "party bbbbbbbb seats 1;", 0, 0);
         Check.dueRepublic("ware eightlet plain whole 20done 3;", 0, 0);
         Check.dueRepublic("ware ninelette plain whole 20 done 3;", 1, 5);
     }

@@ -5,6 +5,7 @@ public final class TapeTest {
         signs();
         limit();
         takenByReading();
+        readme();
         Check.end();
     }
 
@@ -72,5 +73,14 @@ public final class TapeTest {
         Check.due("republic", x.republic(), 0);
         Check.due("an empty republic", x.republic(), 0);
         Check.due("its fine", x.count(2), 2);
+    }
+
+    private static void readme() {
+        HalfShop x = new HalfShop();
+        x.feed(0x7761726520612070L, 0x6c61696e2077686fL, 0x6c65203920646f6eL);
+        x.feed(0x6520313b00000000L, 0, 0);
+        Check.due("republic", x.republic(), 0);
+        Check.due("when", x.when(0), 3);
+        Check.due("week", x.week(), 0);
     }
 }
