@@ -1,4 +1,6 @@
 import java.util.NoSuchElementException;
+import java.util.function.Supplier;
+import java.util.function.ToIntFunction;
 
 /** What the tests share: counting wrong answers, feeding texts, reading them. */
 final class Check {
@@ -90,6 +92,34 @@ final class Check {
             s.append(x.judged(what)).append(' ').append(x.wholes(what)).append(' ');
         }
         return s.toString();
+    }
+
+    /** All that can be seen and gone back to: the state, each undo, each mark, what stands on the tape. Uses x up. */
+    static String deepView(HalfShop x) {
+        StringBuilder s = new StringBuilder(view(x));
+        for (int i = 0; i < 20 && x.undo(); i++) {
+            s.append("| undo ").append(view(x));
+        }
+        for (int mark = 0; mark <= 3; mark++) {
+            if (x.mark(mark, true)) {
+                s.append("| mark ").append(mark).append(' ').append(view(x));
+            }
+        }
+        s.append("| week ").append(x.week()).append(' ').append(x.fines(60));
+        put(x, ";");
+        s.append("| tape ").append(x.republic()).append(' ').append(x.count(2));
+        return s.toString();
+    }
+
+    /** A call that is refused: its answer, and that all is then as on a twin on which it was not made. */
+    static void refused(String call, Supplier<HalfShop> made, ToIntFunction<HalfShop> asked, int want) {
+        HalfShop x = made.get();
+        due(call, asked.applyAsInt(x), want);
+        due(call + ": all stays", deepView(x).equals(deepView(made.get())), true);
+    }
+
+    static int bit(boolean answer) {
+        return answer ? 1 : 0;
     }
 
     static void end() {

@@ -16,7 +16,7 @@ public final class StairTest {
                 Check.dueNoSuch(x, 1, 1, wrong, what);
             }
         }
-        everyStair(x);
+        everyStair();
         Check.end();
     }
 
@@ -33,8 +33,9 @@ public final class StairTest {
     }
 
     /** Told case by case, not by payoffs. */
-    private static void everyStair(HalfShop x) {
+    private static void everyStair() {
         for (int lose = 0; lose <= 9; lose++) {
+            HalfShop x = new HalfShop();
             for (int goes = 0; goes <= 9; goes++) {
                 for (int stays = 0; stays <= 9; stays++) {
                     int many = 2 + (goes == 0 ? 1 : 0) + (lose == 0 && stays == 0 ? 1 : 0);
