@@ -33,7 +33,25 @@ public final class LimitTest {
         }
         Check.due("the calls make next to nothing", made() - before < 2000000, true);
         depthOfStack();
+        lastCall();
         Check.end();
+    }
+
+    /** An object is used for 512 calls: the last one is answered as any. */
+    private static void lastCall() {
+        HalfShop x = new HalfShop();
+        String text = "ware a bridge whole 2 done 1;fine 9;works (date<500)*9;";
+        Check.put(x, text);
+        Check.due("republic", x.republic(), 0);
+        // Put asks count(12) once, then feeds by 24 signs.
+        int calls = 1 + (text.length() + 23) / 24 + 1;
+        for (; calls < 509; calls++) {
+            int week = calls - 5;
+            Check.due("week " + week, x.week(), week < 500 ? 18 * 9 : 0);
+        }
+        Check.due("the 510th call", x.count(3), 504);
+        Check.due("the 511th call", x.count(4), 500 * 18 * 9);
+        Check.due("the last call", x.count(11), 16);
     }
 
     /** Every depth keeps as many operands waiting as it can. */
