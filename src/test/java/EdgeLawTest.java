@@ -13,6 +13,7 @@ public final class EdgeLawTest {
         cutAtBothEnds();
         untold();
         longest();
+        behindOtherLaws();
         Check.end();
     }
 
@@ -243,5 +244,17 @@ public final class EdgeLawTest {
         Check.due("republic", x.republic(), 0);
         x.week();
         Check.due("the last one counts", x.ware(0, 2), 7);
+    }
+
+    /** Nothing of a longer law, told one or two republics before, is left in a shorter one. */
+    private static void behindOtherLaws() {
+        HalfShop x = new HalfShop();
+        String[] laws = {"not 3", "not not 0", "3", "5", "not 0*7+1-1", "so", "7", "1+2+3", "4", "(date)", "not 1", "6"};
+        int[] much = {0, 0, 3, 5, 7, 0, 7, 6, 4, 0, 0, 6};
+        for (int i = 0; i < laws.length; i++) {
+            Check.due("republic", Check.republic(x, "ware a plain whole 60 done 0;works " + laws[i] + ";"), 0);
+            x.week();
+            Check.due("works " + laws[i], x.ware(0, 2), much[i]);
+        }
     }
 }

@@ -23,6 +23,7 @@ public final class EdgeVotesTest {
         rivalOfNobody();
         friendsPairs();
         blocsAndOrphans();
+        fewerPartiesThanBefore();
         Check.end();
     }
 
@@ -335,5 +336,36 @@ public final class EdgeVotesTest {
             six.append("ware ").append(c).append(" plain whole 4 done 0;for p ").append(c).append(';');
         }
         Check.due("all six", Check.shop(six.toString()).orphans(), 63);
+    }
+
+    /** Sets with parties of a republic before are no sets any more. */
+    private static void fewerPartiesThanBefore() {
+        for (int many = 0; many <= 4; many++) {
+            HalfShop x = seats(9, 9, 40, 40, 40);
+            Check.due("core", x.core(), 0);
+            StringBuilder s = new StringBuilder();
+            for (int i = 0; i < many; i++) {
+                s.append("party ").append((char) ('p' + i)).append(" seats ").append(i == 0 ? 2 : 1).append(";");
+            }
+            Check.due("republic", Check.republic(x, s.toString()), 0);
+            HalfShop fresh = Check.shop(s.toString());
+            Check.due("core of " + many, x.core(), fresh.core());
+            Check.due("lean of " + many, x.lean(), fresh.lean());
+            for (int i = 0; i <= 40; i++) {
+                Check.due("ways", x.ways(i), fresh.ways(i));
+            }
+            for (int i = 0; i <= many; i++) {
+                Check.due("pivot", x.pivot(i), fresh.pivot(i));
+                Check.due("power", x.power(i), fresh.power(i));
+            }
+        }
+        HalfShop two = seats(40, 40, 0, 40, 40);
+        Check.due("core", two.core(), 0);
+        Check.due("republic", Check.republic(two, "party p seats 2;party q seats 1;"), 0);
+        Check.due("pivot", two.pivot(0), 2);
+        Check.due("pivot", two.pivot(1), 0);
+        Check.due("power", two.power(0), 1000000);
+        Check.due("core", two.core(), 1);
+        Check.due("lean", two.lean(), 1);
     }
 }
